@@ -968,18 +968,16 @@ public final class PluginChains {
 
         /** Those running that are older than p (bits). */
         int olderThan(int p) {
+            if (!hasPlug(p)) {
+                return 0;
+            }
             int bits = 0;
             for (int q = 0; q < plugCount; q++) {
-                if (runsAhead(q, p)) {
+                if (plugs[q].state == RUNNING && plugs[q].age < plugs[p].age) {
                     bits |= 1 << q;
                 }
             }
             return bits;
-        }
-
-        boolean runsAhead(int p, int of) {
-            return hasPlug(p) && hasPlug(of)
-                && plugs[p].state == RUNNING && plugs[p].age < plugs[of].age;
         }
 
         /** Those of some plug-ins (bits) that offer a service (bits). */
@@ -1139,6 +1137,7 @@ public final class PluginChains {
         }
 
         private int addWave(int wave) {
+            // those of this wave still count as in none while it is made
             int left = leftBits();
             int count = 0;
             for (int p = 0; p < host.plugCount; p++) {
@@ -1226,8 +1225,10 @@ public final class PluginChains {
         }
 
         private boolean runsAhead(Hook hook, Hook of) {
-            return hook.priority > of.priority
-                || hook.priority == of.priority && host.runsAhead(hook.plug, of.plug);
+            if (hook.priority != of.priority) {
+                return hook.priority > of.priority;
+            }
+            return (host.olderThan(of.plug) >> hook.plug & 1) != 0;
         }
 
         void run(int x) {
