@@ -1082,6 +1082,7 @@ public final class PluginChains {
             return bring(q, depth + 1) || fails(depth, p, WHY_OTHER_FAILED, service);
         }
 
+        /** Those that the plan has started are no choice here: none of them offers it. */
         private int idleOffer(int p, int service) {
             int best = NONE;
             for (int q = 0; q < host.plugCount; q++) {

@@ -98,21 +98,25 @@ public final class DaysTest {
         Checks.due("days of one that is gone", y.remove(0) >= 0 ? y.days(40) : -9, 0);
     }
 
-    private static void images() {
+    private static PluginChains lived() {
         PluginChains x = many();
-        x.start(0);
+        x.start(2);
+        x.start(1);
+        x.start(4);
+        x.mend(4);
+        x.start(4);
         x.hook(2, 0, 3, 6, 5);
+        x.hook(4, 0, 2, 0, 7);
         x.fire(0, 9);
-        x.start(3);
         x.seed(99);
+        return x;
+    }
+
+    private static void images() {
+        PluginChains x = lived();
         Checks.due("image", x.image(), 6);
-        PluginChains same = many();
-        same.start(0);
-        same.hook(2, 0, 3, 6, 5);
-        same.fire(0, 9);
-        same.start(3);
-        same.seed(99);
-        String before = stateOf(same);
+        String before = stateOf(lived());
+        Checks.holds("what is kept has a tally", before.contains(" t9"));
         Checks.same("an image changes nothing", stateOf(x), before);
         change(x);
         Checks.due("restore", x.restore(), 6);
@@ -123,8 +127,8 @@ public final class DaysTest {
     }
 
     private static void change(PluginChains x) {
-        x.days(40);
         x.fire(0, 3);
+        x.days(40);
         x.plug(0, 0, 0, 255, 0, Make.name("zz"));
         x.start(6);
         x.hook(6, 1, 0, 0, 0);
@@ -178,11 +182,15 @@ public final class DaysTest {
         PluginChains x = Make.withOneRunning();
         x.image();
         Make.plain(x, "b", "", "");
-        x.show(0, 0);
+        x.show(0, 1);
         x.show(1, 1);
+        x.show(7, 1);
+        x.show(4, 0);
         Make.ints(x, 2, 5, 6);
         x.restore();
-        Checks.due("a shelf with one that there is", x.holds(0), 0);
+        Checks.due("a shelf with one that there is", x.holds(4), 0);
+        Checks.due("the first shelf", x.holds(0), -1);
+        Checks.due("the last shelf", x.holds(7), -1);
         Checks.due("a shelf with one that there is not", x.holds(1), -1);
         Checks.due("a shelf with a row", x.holds(2), 102);
         Checks.due("its element", x.element(2, 1), 6);

@@ -16,6 +16,7 @@ public final class PlugsTest {
         ages();
         tallies();
         providers();
+        providersByAge();
         bindingsMadeAnew();
         Checks.end("PlugsTest");
     }
@@ -112,6 +113,9 @@ public final class PlugsTest {
         faultOf("plugb", 4);
         faultOf("plug  b", 5);
         faultOf("plug B 0 0", 5);
+        faultOf("plug { 0 0", 5);
+        faultOf("plug ` 0 0", 5);
+        faultOf("plug z{ 0 0", 6);
         faultOf("plug b", 6);
         faultOf("plug b0", 6);
         faultOf("plug bcde", 9);
@@ -136,6 +140,11 @@ public final class PlugsTest {
         faultOf("plug b 0 0;;", 11);
         faultOf("plug b 0 0; plug c 0 0", 11);
         faultOf("plug b 0 0;plug c 0 0;plug d 0 0+", 33);
+        faultOf("plug0 0x", 4);
+        faultOf("plug b 0!!x", 8);
+        faultOf("plug b 0 ;plux", 9);
+        faultOf("plug b 0 0-;plux", 11);
+        faultOf("plug b 0 0-!x", 11);
     }
 
     private static void textNames() {
@@ -305,6 +314,18 @@ public final class PlugsTest {
         Checks.refused(x, "provider of -1", -11, () -> x.provider(-1, 0));
         Checks.refused(x, "provider of service 8", -11, () -> x.provider(0, 8));
         Checks.refused(x, "provider of service -1", -11, () -> x.provider(0, -1));
+    }
+
+    private static void providersByAge() {
+        PluginChains x = new PluginChains();
+        Make.plug(x, 0, 4, "", "0", 0, "a");
+        Make.plug(x, 0, 4, "", "0", 0, "b");
+        Make.plug(x, 0, 3, "", "0", 0, "c");
+        Make.plug(x, 0, 0, "0", "", 0, "d");
+        for (int p : new int[] {2, 0, 1, 3}) {
+            x.start(p);
+        }
+        Checks.due("neither the younger of two nor an older weaker one", x.provider(3, 0), 0);
     }
 
     private static void bindingsMadeAnew() {

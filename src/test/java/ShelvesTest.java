@@ -42,6 +42,11 @@ public final class ShelvesTest {
         Checks.due("row of none", x.row(7, 0, 0), 1);
         Checks.due("set in a row of none", x.set(7, 0, 1), -5);
         x.set(0, 159, 5);
+        Make.plain(x, "a", "", "");
+        x.show(6, 0);
+        Checks.due("row in a plug-in's place", x.row(6, 1, 2), 1);
+        Checks.due("set in it", x.set(6, 1, 4), 1);
+        Checks.due("holds of it", x.holds(6), 101);
         Checks.due("row again", x.row(0, 3, 160), 1);
         Checks.due("a new row's element", x.element(0, 159), 0);
         Checks.refused(x, "row(-1)", -1, () -> x.row(-1, 0, 1));

@@ -9,6 +9,7 @@ public final class StartsTest {
         causesStay();
         startRefusals();
         longStart();
+        allAtOnce();
         stops();
         waves();
         waveRefusals();
@@ -91,6 +92,12 @@ public final class StartsTest {
         Make.plain(y, "ac", "", "0");
         y.start(0);
         runningAre(y, 2, 0);
+        PluginChains z = new PluginChains();
+        Make.plain(z, "m", "0", "");
+        Make.plug(z, 0, 4, "", "0", 0, "a");
+        Make.plug(z, 0, 5, "", "0", 0, "b");
+        z.start(0);
+        runningAre(z, 2, 0);
     }
 
     private static void offersOfRunningOnes() {
@@ -210,6 +217,37 @@ public final class StartsTest {
         Checks.due("stop", x.stop(8), 9);
         Checks.due("log", x.log(9), 200);
         Checks.due("log", x.log(17), 208);
+    }
+
+    /** Twelve: one needs what four offer, each of which needs what others offer. */
+    private static void allAtOnce() {
+        PluginChains x = new PluginChains();
+        Make.plain(x, "l", "0123", "");
+        Make.plain(x, "k", "4567", "0");
+        Make.plain(x, "j", "", "1");
+        Make.plain(x, "i", "", "2");
+        Make.plain(x, "n", "", "3");
+        for (int service = 4; service < 8; service++) {
+            Make.plain(x, "" + (char) ('a' + service), "", "" + service);
+        }
+        Make.plain(x, "c", "0", "");
+        Make.plain(x, "b", "1", "");
+        Make.plain(x, "a", "2", "");
+        Checks.due("would", x.would(0, -1), 9);
+        Checks.due("start", x.start(0), 9);
+        for (int p = 9; p < 12; p++) {
+            Checks.due("start", x.start(p), 1);
+        }
+        runningAre(x, 5, 6, 7, 8, 1, 2, 3, 4, 0, 9, 10, 11);
+        Checks.due("offered", x.offered(7), 1 << 8);
+        Checks.due("provider", x.provider(11, 2), 3);
+        Checks.due("wave", x.wave(5, 1), 1);
+        Checks.due("wave", x.wave(5, 9), 2);
+        Checks.due("wave", x.wave(5, 11), -1);
+        Checks.due("stop", x.stop(5), 4);
+        runningAre(x, 6, 7, 8, 2, 3, 4, 10, 11);
+        Checks.due("start", x.start(0), 3);
+        Checks.due("running", x.status(1), 11);
     }
 
     private static void stops() {
