@@ -240,6 +240,9 @@ public final class StartsTest {
         }
         runningAre(x, 5, 6, 7, 8, 1, 2, 3, 4, 0, 9, 10, 11);
         Checks.due("offered", x.offered(7), 1 << 8);
+        x.hook(11, 0, 0, 6, 0);
+        Checks.due("fire", x.fire(0, 5), 0);
+        Checks.due("the last one's tally", x.tally(11), 5);
         Checks.due("provider", x.provider(11, 2), 3);
         Checks.due("wave", x.wave(5, 1), 1);
         Checks.due("wave", x.wave(5, 9), 2);
