@@ -1289,8 +1289,20 @@ public final class PluginChains {
             return ask(at + 1, x);
         }
 
+        /** What the rest is asked of; what is done with the rest's answer stands apart. */
+        private static int handedOn(Hook hook, int x) {
+            switch (hook.function) {
+                case PLUS:
+                    return x + hook.k;
+                case SWAP:
+                    return x ^ hook.k;
+                default:
+                    return x;
+            }
+        }
+
         private int restFirst(int at, Hook hook, int x) {
-            int rest = ask(at + 1, hook.function == SWAP ? x ^ hook.k : x);
+            int rest = ask(at + 1, handedOn(hook, x));
             if (outcome == THREW && hook.function == CATCH) {
                 outcome = GAVE;
                 return rest + hook.k;
@@ -1299,8 +1311,6 @@ public final class PluginChains {
                 return rest;
             }
             switch (hook.function) {
-                case PLUS:
-                    return rest + hook.k;
                 case TIMES:
                     return rest * hook.k;
                 case TWICE:

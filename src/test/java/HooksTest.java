@@ -10,6 +10,8 @@ public final class HooksTest {
         chains();
         chainRefusals();
         functions();
+        plusAsksRestOfSum();
+        onlyPlusAndSwapHandOnAnother();
         functionsWrap();
         guards();
         catches();
@@ -124,7 +126,7 @@ public final class HooksTest {
 
     private static void functions() {
         fires(new PluginChains(), 0, 7, 0, 7);
-        fires(aheadOfTimes(0, -5), 0, 7, 0, 16);
+        fires(aheadOfTimes(0, -5), 0, 7, 0, 6);
         fires(aheadOfTimes(1, -5), 0, 7, 0, -105);
         fires(aheadOfTimes(2, 0), 0, 7, 0, 63);
         fires(aheadOfTimes(3, 7), 0, 7, 0, 7);
@@ -136,6 +138,53 @@ public final class HooksTest {
         fires(aheadOfTimes(7, 8), 0, 7, 1, 7);
         fires(aheadOfTimes(7, 7), 0, 7, 0, 21);
         fires(aheadOfTimes(8, 9), 0, 7, 0, 21);
+    }
+
+    /** A host with a PLUS ahead of a hook of the function. */
+    private static PluginChains behindPlus(int plus, int function, int k) {
+        PluginChains x = Make.withOneRunning();
+        x.hook(0, 0, 1, 0, plus);
+        x.hook(0, 0, 0, function, k);
+        return x;
+    }
+
+    private static void plusAsksRestOfSum() {
+        fires(behindPlus(-5, 0, 9), 0, 7, 0, 11);
+        fires(behindPlus(-5, 1, 3), 0, 7, 0, 6);
+        fires(behindPlus(-5, 3, 7), 0, 7, 0, 2);
+        fires(behindPlus(-5, 4, 6), 0, 7, 0, 2);
+        fires(behindPlus(-5, 5, 0), 0, 7, 0, 4);
+        fires(behindPlus(-5, 7, 3), 0, 7, 1, 2);
+        fires(behindPlus(-5, 7, 2), 0, 7, 0, 2);
+        fires(behindPlus(5, 7, 8), 0, 3, 0, 8);
+        fires(behindPlus(99, 1, 2), 0, MOST, 0, (MOST + 99) * 2);
+        PluginChains noted = behindPlus(-5, 6, 0);
+        fires(noted, 0, 7, 0, 2);
+        Checks.due("a NOTE behind a PLUS", noted.tally(0), 2);
+        PluginChains guarded = behindPlus(-5, 3, 2);
+        guarded.hook(0, 0, -1, 1, 4);
+        fires(guarded, 0, 7, 0, 2);
+        fires(guarded, 0, 8, 0, 12);
+        Checks.due("matter", guarded.matter(0, 7), 1 | 2);
+        Checks.due("source", guarded.source(0, 12, 0, 20), TOLD + 8);
+        PluginChains twice = behindPlus(5, 2, 0);
+        twice.hook(0, 0, -1, 0, 10);
+        fires(twice, 0, 1, 0, 1 + 5 + 10 + 10);
+        PluginChains caught = behindPlus(5, 8, 3);
+        caught.hook(0, 0, -1, 7, 10);
+        fires(caught, 0, 1, 0, 1 + 5 + 3);
+    }
+
+    /** What a NOTE behind a hook of each function is asked with, that hook's k being 9. */
+    private static void onlyPlusAndSwapHandOnAnother() {
+        int[] due = {7 + 9, 7, 7 + 7, 7, 7 ^ 9, 7, 7 + 7, 0, 7};
+        for (int function = 0; function < due.length; function++) {
+            PluginChains x = Make.withOneRunning();
+            x.hook(0, 0, 1, function, 9);
+            x.hook(0, 0, 0, 6, 0);
+            x.fire(0, 7);
+            Checks.due("a NOTE behind function " + function, x.tally(0), due[function]);
+        }
     }
 
     private static void functionsWrap() {
@@ -168,10 +217,11 @@ public final class HooksTest {
         x.hook(0, 0, 6, 4, 3);
         x.hook(0, 0, 5, 7, 10);
         x.hook(0, 0, 4, 1, 2);
-        fires(x, 0, 4, 0, (4 ^ 3) + 5 + 1);
-        fires(x, 0, 16, 0, ((16 ^ 3) * 2 ^ 3) + 1);
+        fires(x, 0, 4, 0, (5 ^ 3) + 5);
+        fires(x, 0, 16, 0, (17 ^ 3) * 2 ^ 3);
         x.hook(0, 0, 9, 7, 0);
-        fires(x, 0, -1, 1, -1);
+        fires(x, 0, -2, 1, -1);
+        fires(x, 0, -1, 0, (0 ^ 3) + 5);
         PluginChains y = Make.withOneRunning();
         y.hook(0, 0, 0, 7, 0);
         y.hook(0, 0, 0, 8, 9);
@@ -183,7 +233,8 @@ public final class HooksTest {
         z.hook(0, 0, 1, 0, -6);
         z.hook(0, 0, 0, 7, 10);
         fires(z, 0, 14, 0, 58);
-        fires(z, 0, 16, 0, 4);
+        fires(z, 0, 20, 0, 58);
+        fires(z, 0, 22, 0, 10);
     }
 
     private static void counts() {
@@ -206,19 +257,19 @@ public final class HooksTest {
         x.hook(1, 0, 5, 6, 0);
         x.hook(1, 0, 4, 7, 5);
         fires(x, 0, 6, 0, 7);
-        Checks.due("tally", x.tally(0), 6);
-        Checks.due("tally", x.tally(1), 18);
-        fires(x, 0, 4, 1, 4);
-        Checks.due("tally stays when it throws", x.tally(0), 6);
-        Checks.due("tally stays when it throws", x.tally(1), 18);
+        Checks.due("tally", x.tally(0), 7);
+        Checks.due("tally", x.tally(1), 6 + 7 + 7);
+        fires(x, 0, 3, 1, 4);
+        Checks.due("tally stays when it throws", x.tally(0), 7);
+        Checks.due("tally stays when it throws", x.tally(1), 20);
         x.hook(1, 0, 9, 8, 0);
-        fires(x, 0, 4, 0, 4);
-        Checks.due("tally when it is caught", x.tally(0), 10);
-        Checks.due("tally when it is caught", x.tally(1), 26);
-        x.hook(1, 0, 8, 8, 0);
         fires(x, 0, 3, 0, 4);
-        Checks.due("tally when it is caught", x.tally(0), 13);
-        Checks.due("tally when it is caught", x.tally(1), 32);
+        Checks.due("tally when it is caught", x.tally(0), 7 + 4);
+        Checks.due("tally when it is caught", x.tally(1), 20 + 3 + 4);
+        x.hook(1, 0, 8, 8, 0);
+        fires(x, 0, 2, 0, 3);
+        Checks.due("tally when it is caught", x.tally(0), 11 + 3);
+        Checks.due("tally when it is caught", x.tally(1), 27 + 2 + 3);
     }
 
     private static void ends() {
@@ -385,7 +436,7 @@ public final class HooksTest {
         for (int n = 0; n < due.length; n++) {
             Checks.due("judge(0, 2, " + n + ")", x.judge(0, 2, n), due[n]);
         }
-        Make.ints(x, 0, -3, -3, 9);
+        Make.ints(x, 0, -8, -3, 9);
         Checks.due("what is thrown is not given", x.judge(0, 2, 1), 0);
         x.row(1, 0, 160);
         Checks.due("judge of 80", x.judge(1, 0, 80), -1);

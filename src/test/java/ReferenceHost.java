@@ -760,7 +760,7 @@ final class ReferenceHost {
         int k = hook.k();
         switch (hook.function()) {
             case 0:
-                return rest.applyAsInt(x) + k;
+                return rest.applyAsInt(x + k);
             case 1:
                 return rest.applyAsInt(x) * k;
             case 2:
