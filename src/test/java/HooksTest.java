@@ -1,9 +1,5 @@
 /** Promises 25 to 34: hooks, chains, values fired through. */
 public final class HooksTest {
-    private static final long TOLD = 10000000000L;
-    private static final int LEAST = Integer.MIN_VALUE;
-    private static final int MOST = Integer.MAX_VALUE;
-
     public static void main(String[] args) {
         hooks();
         hookRefusals();
@@ -27,14 +23,6 @@ public final class HooksTest {
         judges();
         judgeRefusals();
         Checks.end("HooksTest");
-    }
-
-    private static void fires(PluginChains x, int point, int value, int outcome, int given) {
-        String what = "fire(" + point + ", " + value + ")";
-        Checks.due(what + " as pure", x.pure(point, value, 0), outcome);
-        Checks.due(what + " as pure's value", x.pure(point, value, 1), TOLD + given);
-        Checks.due(what, x.fire(point, value), outcome);
-        Checks.due(what + " given", x.given(), given);
     }
 
     private static void hooks() {
@@ -77,13 +65,6 @@ public final class HooksTest {
         Checks.refused(x, "hook of one gone", -1, () -> x.hook(0, 0, 0, 0, 0));
     }
 
-    private static void chainIs(PluginChains x, int point, int... due) {
-        for (int i = 0; i < due.length; i++) {
-            Checks.due("chain(" + point + ", " + i + ")", x.chain(point, i), due[i]);
-        }
-        Checks.due("chain behind the last", x.chain(point, due.length), -1);
-    }
-
     private static void chains() {
         PluginChains x = new PluginChains();
         for (char c = 'a'; c < 'd'; c++) {
@@ -94,19 +75,19 @@ public final class HooksTest {
             x.hook(hook[0], 2, hook[1], 0, 0);
         }
         x.hook(0, 1, 0, 0, 0);
-        chainIs(x, 2);
+        Look.chainIs(x, 2);
         x.start(1);
-        chainIs(x, 2, 4, 1, 6);
+        Look.chainIs(x, 2, 4, 1, 6);
         x.start(0);
-        chainIs(x, 2, 4, 1, 6, 0, 2, 5);
+        Look.chainIs(x, 2, 4, 1, 6, 0, 2, 5);
         x.start(2);
-        chainIs(x, 2, 3, 4, 1, 6, 0, 2, 5);
+        Look.chainIs(x, 2, 3, 4, 1, 6, 0, 2, 5);
         x.stop(1);
-        chainIs(x, 2, 3, 0, 2, 5);
+        Look.chainIs(x, 2, 3, 0, 2, 5);
         x.start(1);
-        chainIs(x, 2, 3, 4, 0, 2, 1, 6, 5);
-        chainIs(x, 1, 7);
-        chainIs(x, 0);
+        Look.chainIs(x, 2, 3, 4, 0, 2, 1, 6, 5);
+        Look.chainIs(x, 1, 7);
+        Look.chainIs(x, 0);
         Checks.due("chain(2, -1)", x.chain(2, -1), -1);
     }
 
@@ -125,19 +106,19 @@ public final class HooksTest {
     }
 
     private static void functions() {
-        fires(new PluginChains(), 0, 7, 0, 7);
-        fires(aheadOfTimes(0, -5), 0, 7, 0, 6);
-        fires(aheadOfTimes(1, -5), 0, 7, 0, -105);
-        fires(aheadOfTimes(2, 0), 0, 7, 0, 63);
-        fires(aheadOfTimes(3, 7), 0, 7, 0, 7);
-        fires(aheadOfTimes(3, 8), 0, 7, 0, 21);
-        fires(aheadOfTimes(4, 5), 0, 7, 0, 6 ^ 5);
-        fires(aheadOfTimes(4, -5), 0, 7, 0, (7 ^ -5) * 3 ^ -5);
-        fires(aheadOfTimes(5, 9), 0, 7, 0, 23);
-        fires(aheadOfTimes(6, 9), 0, 7, 0, 21);
-        fires(aheadOfTimes(7, 8), 0, 7, 1, 7);
-        fires(aheadOfTimes(7, 7), 0, 7, 0, 21);
-        fires(aheadOfTimes(8, 9), 0, 7, 0, 21);
+        Look.fires(new PluginChains(), 0, 7, 0, 7);
+        Look.fires(aheadOfTimes(0, -5), 0, 7, 0, 6);
+        Look.fires(aheadOfTimes(1, -5), 0, 7, 0, -105);
+        Look.fires(aheadOfTimes(2, 0), 0, 7, 0, 63);
+        Look.fires(aheadOfTimes(3, 7), 0, 7, 0, 7);
+        Look.fires(aheadOfTimes(3, 8), 0, 7, 0, 21);
+        Look.fires(aheadOfTimes(4, 5), 0, 7, 0, 6 ^ 5);
+        Look.fires(aheadOfTimes(4, -5), 0, 7, 0, (7 ^ -5) * 3 ^ -5);
+        Look.fires(aheadOfTimes(5, 9), 0, 7, 0, 23);
+        Look.fires(aheadOfTimes(6, 9), 0, 7, 0, 21);
+        Look.fires(aheadOfTimes(7, 8), 0, 7, 1, 7);
+        Look.fires(aheadOfTimes(7, 7), 0, 7, 0, 21);
+        Look.fires(aheadOfTimes(8, 9), 0, 7, 0, 21);
     }
 
     /** A host with a PLUS ahead of a hook of the function. */
@@ -149,30 +130,30 @@ public final class HooksTest {
     }
 
     private static void plusAsksRestOfSum() {
-        fires(behindPlus(-5, 0, 9), 0, 7, 0, 11);
-        fires(behindPlus(-5, 1, 3), 0, 7, 0, 6);
-        fires(behindPlus(-5, 3, 7), 0, 7, 0, 2);
-        fires(behindPlus(-5, 4, 6), 0, 7, 0, 2);
-        fires(behindPlus(-5, 5, 0), 0, 7, 0, 4);
-        fires(behindPlus(-5, 7, 3), 0, 7, 1, 2);
-        fires(behindPlus(-5, 7, 2), 0, 7, 0, 2);
-        fires(behindPlus(5, 7, 8), 0, 3, 0, 8);
-        fires(behindPlus(99, 1, 2), 0, MOST, 0, (MOST + 99) * 2);
+        Look.fires(behindPlus(-5, 0, 9), 0, 7, 0, 11);
+        Look.fires(behindPlus(-5, 1, 3), 0, 7, 0, 6);
+        Look.fires(behindPlus(-5, 3, 7), 0, 7, 0, 2);
+        Look.fires(behindPlus(-5, 4, 6), 0, 7, 0, 2);
+        Look.fires(behindPlus(-5, 5, 0), 0, 7, 0, 4);
+        Look.fires(behindPlus(-5, 7, 3), 0, 7, 1, 2);
+        Look.fires(behindPlus(-5, 7, 2), 0, 7, 0, 2);
+        Look.fires(behindPlus(5, 7, 8), 0, 3, 0, 8);
+        Look.fires(behindPlus(99, 1, 2), 0, Look.MOST, 0, (Look.MOST + 99) * 2);
         PluginChains noted = behindPlus(-5, 6, 0);
-        fires(noted, 0, 7, 0, 2);
+        Look.fires(noted, 0, 7, 0, 2);
         Checks.due("a NOTE behind a PLUS", noted.tally(0), 2);
         PluginChains guarded = behindPlus(-5, 3, 2);
         guarded.hook(0, 0, -1, 1, 4);
-        fires(guarded, 0, 7, 0, 2);
-        fires(guarded, 0, 8, 0, 12);
+        Look.fires(guarded, 0, 7, 0, 2);
+        Look.fires(guarded, 0, 8, 0, 12);
         Checks.due("matter", guarded.matter(0, 7), 1 | 2);
-        Checks.due("source", guarded.source(0, 12, 0, 20), TOLD + 8);
+        Checks.due("source", guarded.source(0, 12, 0, 20), Look.TOLD + 8);
         PluginChains twice = behindPlus(5, 2, 0);
         twice.hook(0, 0, -1, 0, 10);
-        fires(twice, 0, 1, 0, 1 + 5 + 10 + 10);
+        Look.fires(twice, 0, 1, 0, 1 + 5 + 10 + 10);
         PluginChains caught = behindPlus(5, 8, 3);
         caught.hook(0, 0, -1, 7, 10);
-        fires(caught, 0, 1, 0, 1 + 5 + 3);
+        Look.fires(caught, 0, 1, 0, 1 + 5 + 3);
     }
 
     /** What a NOTE behind a hook of each function is asked with, that hook's k being 9. */
@@ -193,19 +174,19 @@ public final class HooksTest {
         x.hook(0, 1, 0, 1, 99);
         x.hook(0, 2, 0, 8, 10);
         x.hook(0, 2, -1, 7, 99);
-        fires(x, 0, MOST, 0, MOST + 99);
-        fires(x, 1, MOST, 0, MOST * 99);
-        fires(x, 2, LEAST, 0, LEAST + 10);
+        Look.fires(x, 0, Look.MOST, 0, Look.MOST + 99);
+        Look.fires(x, 1, Look.MOST, 0, Look.MOST * 99);
+        Look.fires(x, 2, Look.LEAST, 0, Look.LEAST + 10);
     }
 
     private static void guards() {
-        int[][] stays = {{7, 7}, {-3, 7}, {7, -3}, {-13, -3}, {99, -1}, {0, 10}, {-10, 0}, {-50, 20}, {LEAST, 2}};
-        int[][] goes = {{-7, 7}, {7, -7}, {-7, -3}, {8, 7}, {0, 1}, {LEAST, 8}, {LEAST, 3}};
+        int[][] stays = {{7, 7}, {-3, 7}, {7, -3}, {-13, -3}, {99, -1}, {0, 10}, {-10, 0}, {-50, 20}, {Look.LEAST, 2}};
+        int[][] goes = {{-7, 7}, {7, -7}, {-7, -3}, {8, 7}, {0, 1}, {Look.LEAST, 8}, {Look.LEAST, 3}};
         for (int[] value : stays) {
-            fires(aheadOfTimes(3, value[1]), 0, value[0], 0, value[0]);
+            Look.fires(aheadOfTimes(3, value[1]), 0, value[0], 0, value[0]);
         }
         for (int[] value : goes) {
-            fires(aheadOfTimes(3, value[1]), 0, value[0], 0, value[0] * 3);
+            Look.fires(aheadOfTimes(3, value[1]), 0, value[0], 0, value[0] * 3);
         }
     }
 
@@ -217,24 +198,24 @@ public final class HooksTest {
         x.hook(0, 0, 6, 4, 3);
         x.hook(0, 0, 5, 7, 10);
         x.hook(0, 0, 4, 1, 2);
-        fires(x, 0, 4, 0, (5 ^ 3) + 5);
-        fires(x, 0, 16, 0, (17 ^ 3) * 2 ^ 3);
+        Look.fires(x, 0, 4, 0, (5 ^ 3) + 5);
+        Look.fires(x, 0, 16, 0, (17 ^ 3) * 2 ^ 3);
         x.hook(0, 0, 9, 7, 0);
-        fires(x, 0, -2, 1, -1);
-        fires(x, 0, -1, 0, (0 ^ 3) + 5);
+        Look.fires(x, 0, -2, 1, -1);
+        Look.fires(x, 0, -1, 0, (0 ^ 3) + 5);
         PluginChains y = Make.withOneRunning();
         y.hook(0, 0, 0, 7, 0);
         y.hook(0, 0, 0, 8, 9);
-        fires(y, 0, -5, 1, -5);
-        fires(y, 0, 5, 0, 5);
+        Look.fires(y, 0, -5, 1, -5);
+        Look.fires(y, 0, 5, 0, 5);
         PluginChains z = Make.withOneRunning();
         z.hook(0, 0, 3, 8, 50);
         z.hook(0, 0, 2, 2, 0);
         z.hook(0, 0, 1, 0, -6);
         z.hook(0, 0, 0, 7, 10);
-        fires(z, 0, 14, 0, 58);
-        fires(z, 0, 20, 0, 58);
-        fires(z, 0, 22, 0, 10);
+        Look.fires(z, 0, 14, 0, 58);
+        Look.fires(z, 0, 20, 0, 58);
+        Look.fires(z, 0, 22, 0, 10);
     }
 
     private static void counts() {
@@ -243,7 +224,7 @@ public final class HooksTest {
         x.hook(0, 0, 8, 2, 0);
         x.hook(0, 0, 7, 5, 0);
         x.hook(0, 0, 6, 0, 0);
-        fires(x, 0, 0, 0, 4 + 6 + 6);
+        Look.fires(x, 0, 0, 0, 4 + 6 + 6);
     }
 
     private static void notes() {
@@ -256,18 +237,18 @@ public final class HooksTest {
         x.hook(0, 0, 6, 2, 0);
         x.hook(1, 0, 5, 6, 0);
         x.hook(1, 0, 4, 7, 5);
-        fires(x, 0, 6, 0, 7);
+        Look.fires(x, 0, 6, 0, 7);
         Checks.due("tally", x.tally(0), 7);
         Checks.due("tally", x.tally(1), 6 + 7 + 7);
-        fires(x, 0, 3, 1, 4);
+        Look.fires(x, 0, 3, 1, 4);
         Checks.due("tally stays when it throws", x.tally(0), 7);
         Checks.due("tally stays when it throws", x.tally(1), 20);
         x.hook(1, 0, 9, 8, 0);
-        fires(x, 0, 3, 0, 4);
+        Look.fires(x, 0, 3, 0, 4);
         Checks.due("tally when it is caught", x.tally(0), 7 + 4);
         Checks.due("tally when it is caught", x.tally(1), 20 + 3 + 4);
         x.hook(1, 0, 8, 8, 0);
-        fires(x, 0, 2, 0, 3);
+        Look.fires(x, 0, 2, 0, 3);
         Checks.due("tally when it is caught", x.tally(0), 11 + 3);
         Checks.due("tally when it is caught", x.tally(1), 27 + 2 + 3);
     }
@@ -280,10 +261,10 @@ public final class HooksTest {
             x.hook(0, 0, 7, 2, 0);
         }
         x.hook(0, 0, 6, 5, 0);
-        fires(x, 0, 0, 0, countThrough(6));
+        Look.fires(x, 0, 0, 0, countThrough(6));
         Checks.due("hooks that ran", x.status(8), 2 + 63 + 64);
         x.hook(0, 0, 7, 2, 0);
-        fires(x, 0, 1, 2, 0);
+        Look.fires(x, 0, 1, 2, 0);
         Checks.due("hooks that ran", x.status(8), 200);
         Checks.due("tally stays when it ended", x.tally(0), 0);
         PluginChains y = Make.withOneRunning();
@@ -292,15 +273,15 @@ public final class HooksTest {
         }
         y.hook(0, 0, 0, 0, 1);
         y.hook(0, 0, 0, 0, 1);
-        fires(y, 0, 0, 0, 128);
+        Look.fires(y, 0, 0, 0, 128);
         Checks.due("hooks that ran", y.status(8), 191);
         for (int i = 0; i < 9; i++) {
             y.hook(0, 0, 9, 0, 1);
         }
-        fires(y, 0, 0, 0, 137);
+        Look.fires(y, 0, 0, 0, 137);
         Checks.due("the two hundredth still runs", y.status(8), 200);
         y.hook(0, 0, 9, 0, 1);
-        fires(y, 0, 0, 2, 0);
+        Look.fires(y, 0, 0, 2, 0);
         Checks.due("the 201st does not", y.status(8), 200);
     }
 
@@ -363,10 +344,10 @@ public final class HooksTest {
         x.fire(0, 2);
         String before = Dump.of(x);
         Checks.due("pure", x.pure(0, -4, 0), 0);
-        Checks.due("pure", x.pure(0, -4, 1), TOLD - 12);
-        Checks.due("pure throws", x.pure(1, LEAST, 0), 1);
-        Checks.due("pure throws", x.pure(1, LEAST, 1), TOLD + LEAST);
-        Checks.due("pure gives", x.pure(1, MOST, 1), TOLD + MOST);
+        Checks.due("pure", x.pure(0, -4, 1), Look.TOLD - 12);
+        Checks.due("pure throws", x.pure(1, Look.LEAST, 0), 1);
+        Checks.due("pure throws", x.pure(1, Look.LEAST, 1), Look.TOLD + Look.LEAST);
+        Checks.due("pure gives", x.pure(1, Look.MOST, 1), Look.TOLD + Look.MOST);
         x.matter(0, 4);
         x.source(0, 4, 0, 9);
         Checks.same("pure changes nothing", Dump.of(x), before);
@@ -403,28 +384,28 @@ public final class HooksTest {
         x.hook(0, 0, 8, 7, 0);
         x.hook(0, 0, 7, 1, 2);
         Checks.due("source: 7 is guarded", x.source(0, 14, -10, 20), 0);
-        Checks.due("source", x.source(0, 16, 0, 20), TOLD + 8);
-        Checks.due("source: the guarded one", x.source(0, 17, 0, 20), TOLD + 17);
+        Checks.due("source", x.source(0, 16, 0, 20), Look.TOLD + 8);
+        Checks.due("source: the guarded one", x.source(0, 17, 0, 20), Look.TOLD + 17);
         Checks.due("source: none", x.source(0, 15, 0, 20), 0);
         Checks.due("source: what is thrown is not given", x.source(0, -5, -9, -4), 0);
-        Checks.due("source of 0", x.source(0, 0, -5, 5), TOLD);
-        Checks.due("source below 0", x.source(0, -3, -5, 5), TOLD - 3);
-        Checks.due("source of one", x.source(0, 16, 8, 8), TOLD + 8);
+        Checks.due("source of 0", x.source(0, 0, -5, 5), Look.TOLD);
+        Checks.due("source below 0", x.source(0, -3, -5, 5), Look.TOLD - 3);
+        Checks.due("source of one", x.source(0, 16, 8, 8), Look.TOLD + 8);
         Checks.due("source that ends behind it", x.source(0, 16, 0, 7), 0);
         Checks.due("source that begins behind it", x.source(0, 16, 9, 20), 0);
     }
 
     private static void sourceEdges() {
         PluginChains x = Make.withOneRunning();
-        Checks.due("source to the greatest", x.source(0, MOST, MOST - 199, MOST), TOLD + MOST);
-        Checks.due("source from the least", x.source(0, LEAST, LEAST, LEAST + 199), TOLD + LEAST);
-        Checks.due("source: none up to the greatest", x.source(0, 0, MOST - 199, MOST), 0);
+        Checks.due("source to the greatest", x.source(0, Look.MOST, Look.MOST - 199, Look.MOST), Look.TOLD + Look.MOST);
+        Checks.due("source from the least", x.source(0, Look.LEAST, Look.LEAST, Look.LEAST + 199), Look.TOLD + Look.LEAST);
+        Checks.due("source: none up to the greatest", x.source(0, 0, Look.MOST - 199, Look.MOST), 0);
         Checks.refused(x, "source on point 4", -1, () -> x.source(4, 0, 1, 0));
         Checks.refused(x, "source on point -1", -1, () -> x.source(-1, 0, 0, 0));
         Checks.refused(x, "source from above", -6, () -> x.source(0, 0, 1, 0));
         Checks.refused(x, "source 200 apart", -6, () -> x.source(0, 0, 0, 200));
-        Checks.refused(x, "source all apart", -6, () -> x.source(0, 0, LEAST, MOST));
-        Checks.refused(x, "source all above", -6, () -> x.source(0, 0, MOST, LEAST));
+        Checks.refused(x, "source all apart", -6, () -> x.source(0, 0, Look.LEAST, Look.MOST));
+        Checks.refused(x, "source all above", -6, () -> x.source(0, 0, Look.MOST, Look.LEAST));
     }
 
     private static void judges() {
@@ -470,6 +451,6 @@ public final class HooksTest {
         Checks.refused(x, "judge -1", -14, () -> x.judge(0, 0, -1));
         Checks.refused(x, "judge fewer elements", -15, () -> x.judge(0, 0, 2));
         Checks.refused(x, "judge 81 of 160 elements", -15, () -> x.judge(3, 0, 81));
-        Checks.refused(x, "judge very many", -15, () -> x.judge(0, 0, MOST));
+        Checks.refused(x, "judge very many", -15, () -> x.judge(0, 0, Look.MOST));
     }
 }

@@ -25,15 +25,9 @@ public final class PlugsTest {
         PluginChains x = new PluginChains();
         Checks.due("plug", x.plug(4, 9, 255, 254, 9, 531440), 0);
         Checks.due("plug", x.plug(0, 0, 0, 0, 0, 1), 1);
-        plugIs(x, 0, 0, 4, 9, 255, 254, 9, 10, 531440);
-        plugIs(x, 1, 0, 0, 0, 0, 0, 0, 0, 1);
+        Look.plugIs(x, 0, 0, 4, 9, 255, 254, 9, 10, 531440);
+        Look.plugIs(x, 1, 0, 0, 0, 0, 0, 0, 0, 1);
         Checks.due("status(0)", x.status(0), 2);
-    }
-
-    private static void plugIs(PluginChains x, int p, int... due) {
-        for (int what = 0; what < due.length; what++) {
-            Checks.due("plugOf(" + p + ", " + what + ")", x.plugOf(p, what), due[what]);
-        }
     }
 
     private static void plugRefusals() {
@@ -84,11 +78,11 @@ public final class PlugsTest {
     private static void reads() {
         PluginChains x = new PluginChains();
         Checks.due("read", Make.read(x, "plug b 4 9-0-0+7+1!-3!;plug abcd 1 0"), 2);
-        plugIs(x, 0, 0, 4, 9, 0b1001, 0b10000010, 2, 10, 2);
-        plugIs(x, 1, 0, 1, 0, 0, 0, 0, 0, Make.name("abcd"));
+        Look.plugIs(x, 0, 0, 4, 9, 0b1001, 0b10000010, 2, 10, 2);
+        Look.plugIs(x, 1, 0, 1, 0, 0, 0, 0, 0, Make.name("abcd"));
         Checks.due("fault()", x.fault(), -1);
         Checks.due("read another", Make.read(x, "plug aa 3 2+0!!!!!!!!!"), 1);
-        plugIs(x, 2, 0, 3, 2, 0, 1, 9, 6, Make.name("aa"));
+        Look.plugIs(x, 2, 0, 3, 2, 0, 1, 9, 6, Make.name("aa"));
         Checks.due("status(0)", x.status(0), 3);
     }
 

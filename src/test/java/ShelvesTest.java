@@ -93,25 +93,19 @@ public final class ShelvesTest {
         Make.ints(x, 0, 1, 2, 3, 4, 5);
         Make.ints(x, 1, 6, 7, 8);
         Checks.due("copy", x.copy(0, 1, 3, 1, 2), 1);
-        elementsAre(x, 1, 6, 4, 5);
-        elementsAre(x, 0, 1, 2, 3, 4, 5);
+        Look.elementsAre(x, 1, 6, 4, 5);
+        Look.elementsAre(x, 0, 1, 2, 3, 4, 5);
         Checks.due("copy none at the ends", x.copy(0, 1, 5, 3, 0), 1);
-        elementsAre(x, 1, 6, 4, 5);
+        Look.elementsAre(x, 1, 6, 4, 5);
     }
 
     private static void copiesOntoItself() {
         PluginChains x = new PluginChains();
         Make.ints(x, 0, 1, 2, 3, 4, 5);
         x.copy(0, 0, 0, 1, 4);
-        elementsAre(x, 0, 1, 1, 2, 3, 4);
+        Look.elementsAre(x, 0, 1, 1, 2, 3, 4);
         x.copy(0, 0, 1, 0, 4);
-        elementsAre(x, 0, 1, 2, 3, 4, 4);
-    }
-
-    private static void elementsAre(PluginChains x, int s, long... due) {
-        for (int i = 0; i < due.length; i++) {
-            Checks.due("element " + i + " of shelf " + s, x.element(s, i), due[i]);
-        }
+        Look.elementsAre(x, 0, 1, 2, 3, 4, 4);
     }
 
     private static void copyRefusals() {

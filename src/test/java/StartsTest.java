@@ -23,32 +23,6 @@ public final class StartsTest {
         Checks.end("StartsTest");
     }
 
-    private static void stateIs(PluginChains x, int p, int due) {
-        Checks.due("state of " + p, x.plugOf(p, 0), due);
-    }
-
-    private static void causesAre(PluginChains x, int... due) {
-        Checks.due("how many causes", x.status(7), due.length / 3);
-        for (int i = 0; i < due.length; i++) {
-            Checks.due("cause(" + i / 3 + ", " + i % 3 + ")", x.cause(i / 3, i % 3), due[i]);
-        }
-        Checks.due("cause behind the last", x.cause(due.length / 3, 0), -5);
-    }
-
-    private static void logIs(PluginChains x, int... due) {
-        for (int i = 0; i < due.length; i++) {
-            Checks.due("log(" + i + ")", x.log(i), due[i]);
-        }
-        Checks.due("log behind the last", x.log(due.length), -1);
-    }
-
-    private static void runningAre(PluginChains x, int... due) {
-        for (int i = 0; i < due.length; i++) {
-            Checks.due("running(" + i + ")", x.running(i), due[i]);
-        }
-        Checks.due("running behind the last", x.running(due.length), -1);
-    }
-
     private static void starts() {
         PluginChains x = new PluginChains();
         Make.plain(x, "a", "21", "");
@@ -56,11 +30,11 @@ public final class StartsTest {
         Make.plain(x, "c", "", "2");
         Make.plain(x, "d", "", "3");
         Checks.due("start", x.start(0), 4);
-        runningAre(x, 3, 1, 2, 0);
-        logIs(x, 103, 101, 102, 100);
+        Look.runningAre(x, 3, 1, 2, 0);
+        Look.logIs(x, 103, 101, 102, 100);
         Checks.due("clock", x.status(5), 4);
         Checks.due("running", x.status(1), 4);
-        causesAre(x);
+        Look.causesAre(x);
     }
 
     private static void offersTaken() {
@@ -71,19 +45,19 @@ public final class StartsTest {
         Make.plug(x, 4, 5, "", "0", 0, "bb");
         Make.plug(x, 0, 5, "", "0", 0, "a");
         Checks.due("start", x.start(0), 2);
-        runningAre(x, 2, 0);
+        Look.runningAre(x, 2, 0);
         x.stop(2);
         x.remove(2);
         x.start(0);
-        runningAre(x, 1, 0);
+        Look.runningAre(x, 1, 0);
         x.stop(1);
         x.remove(1);
         x.start(0);
-        runningAre(x, 3, 0);
+        Look.runningAre(x, 3, 0);
         x.stop(3);
         x.remove(3);
         x.start(0);
-        runningAre(x, 4, 0);
+        Look.runningAre(x, 4, 0);
         PluginChains y = new PluginChains();
         Make.plain(y, "m", "0", "");
         Make.plain(y, "c", "", "0");
@@ -91,13 +65,13 @@ public final class StartsTest {
         Make.plain(y, "b", "", "0");
         Make.plain(y, "ac", "", "0");
         y.start(0);
-        runningAre(y, 2, 0);
+        Look.runningAre(y, 2, 0);
         PluginChains z = new PluginChains();
         Make.plain(z, "m", "0", "");
         Make.plug(z, 0, 4, "", "0", 0, "a");
         Make.plug(z, 0, 5, "", "0", 0, "b");
         z.start(0);
-        runningAre(z, 2, 0);
+        Look.runningAre(z, 2, 0);
     }
 
     private static void offersOfRunningOnes() {
@@ -107,42 +81,42 @@ public final class StartsTest {
         Make.plain(x, "c", "0", "");
         x.start(0);
         Checks.due("one that runs is enough", x.start(2), 1);
-        runningAre(x, 0, 2);
+        Look.runningAre(x, 0, 2);
         PluginChains y = new PluginChains();
         Make.plain(y, "a", "01", "");
         Make.plug(y, 0, 9, "2", "0", 0, "b");
         Make.plug(y, 0, 0, "", "12", 0, "c");
         Make.plug(y, 0, 9, "", "1", 0, "d");
         Checks.due("one started on the way is enough", y.start(0), 3);
-        runningAre(y, 2, 1, 0);
+        Look.runningAre(y, 2, 1, 0);
     }
 
     private static void causesOfEach() {
         PluginChains x = new PluginChains();
         Make.plain(x, "a", "5", "");
         Checks.countedOnly(x, "start without an offer", -6, () -> x.start(0));
-        causesAre(x, 0, 2, 5);
+        Look.causesAre(x, 0, 2, 5);
         Make.plain(x, "b", "3", "3");
         x.start(1);
-        causesAre(x, 1, 2, 3);
+        Look.causesAre(x, 1, 2, 3);
         Make.plug(x, 0, 0, "", "5", 2, "c");
         x.start(2);
-        causesAre(x, 2, 5, -1);
+        Look.causesAre(x, 2, 5, -1);
         Checks.due("faults", x.plugOf(2, 5), 1);
-        stateIs(x, 2, 2);
+        Look.stateIs(x, 2, 2);
         Checks.countedOnly(x, "start of one broken", -6, () -> x.start(2));
-        causesAre(x, 2, 1, -1);
+        Look.causesAre(x, 2, 1, -1);
         Checks.due("faults stay", x.plugOf(2, 5), 1);
         x.start(0);
-        causesAre(x, 0, 2, 5);
+        Look.causesAre(x, 0, 2, 5);
         x.mend(2);
         x.start(0);
-        causesAre(x, 0, 4, 5, 2, 5, -1);
+        Look.causesAre(x, 0, 4, 5, 2, 5, -1);
         Checks.due("faults", x.plugOf(2, 5), 0);
         x.remove(2);
         x.start(2);
-        causesAre(x, 2, 1, -1);
-        logIs(x, 302, 302);
+        Look.causesAre(x, 2, 1, -1);
+        Look.logIs(x, 302, 302);
     }
 
     private static void rolledBack() {
@@ -156,18 +130,18 @@ public final class StartsTest {
         Make.plain(x, "g", "", "3");
         x.start(1);
         x.start(0);
-        causesAre(x, 0, 4, 2, 4, 5, -1);
-        logIs(x, 101, 103, 102, 105, 304, 205, 202, 203);
-        runningAre(x, 1);
+        Look.causesAre(x, 0, 4, 2, 4, 5, -1);
+        Look.logIs(x, 101, 103, 102, 105, 304, 205, 202, 203);
+        Look.runningAre(x, 1);
         Checks.due("clock stays", x.status(5), 4);
         Checks.due("logged", x.status(9), 8);
         for (int p : new int[] {0, 2, 3, 5, 6}) {
-            stateIs(x, p, 0);
+            Look.stateIs(x, p, 0);
         }
-        stateIs(x, 4, 2);
+        Look.stateIs(x, 4, 2);
         x.mend(4);
         Checks.due("start again", x.start(0), 6);
-        runningAre(x, 1, 3, 2, 5, 4, 6, 0);
+        Look.runningAre(x, 1, 3, 2, 5, 4, 6, 0);
         Checks.due("age", x.age(3), 4);
     }
 
@@ -178,15 +152,15 @@ public final class StartsTest {
         Make.plain(x, "c", "2", "0");
         Make.plain(x, "d", "", "");
         x.start(1);
-        causesAre(x, 1, 4, 1, 0, 4, 0, 2, 3, 2);
+        Look.causesAre(x, 1, 4, 1, 0, 4, 0, 2, 3, 2);
         Checks.due("start", x.start(3), 1);
-        causesAre(x, 1, 4, 1, 0, 4, 0, 2, 3, 2);
+        Look.causesAre(x, 1, 4, 1, 0, 4, 0, 2, 3, 2);
         Checks.due("start one that runs", x.start(3), -6);
-        causesAre(x, 1, 4, 1, 0, 4, 0, 2, 3, 2);
+        Look.causesAre(x, 1, 4, 1, 0, 4, 0, 2, 3, 2);
         x.would(0, -1);
         x.seed(7);
         x.days(40);
-        causesAre(x, 1, 4, 1, 0, 4, 0, 2, 3, 2);
+        Look.causesAre(x, 1, 4, 1, 0, 4, 0, 2, 3, 2);
         Checks.refused(x, "cause -1", -5, () -> x.cause(-1, 0));
         Checks.refused(x, "cause 3", -5, () -> x.cause(3, 0));
         Checks.refused(x, "cause what 3", -5, () -> x.cause(0, 3));
@@ -206,11 +180,11 @@ public final class StartsTest {
             Make.plain(x, "" + (char) ('a' + i), "" + i, i == 0 ? "" : "" + (i - 1));
         }
         x.start(0);
-        causesAre(x, 0, 4, 0, 1, 4, 1, 2, 4, 2, 3, 4, 3, 4, 4, 4, 5, 4, 5, 6, 4, 6, 7, 2, 7);
+        Look.causesAre(x, 0, 4, 0, 1, 4, 1, 2, 4, 2, 3, 4, 3, 4, 4, 4, 5, 4, 5, 6, 4, 6, 7, 2, 7);
         Make.plain(x, "i", "", "7");
         Checks.due("would", x.would(0, -1), 9);
         Checks.due("start", x.start(0), 9);
-        runningAre(x, 8, 7, 6, 5, 4, 3, 2, 1, 0);
+        Look.runningAre(x, 8, 7, 6, 5, 4, 3, 2, 1, 0);
         for (int q = 0; q < 8; q++) {
             Checks.due("wave", x.wave(8, q), 8 - q);
         }
@@ -238,7 +212,7 @@ public final class StartsTest {
         for (int p = 9; p < 12; p++) {
             Checks.due("start", x.start(p), 1);
         }
-        runningAre(x, 5, 6, 7, 8, 1, 2, 3, 4, 0, 9, 10, 11);
+        Look.runningAre(x, 5, 6, 7, 8, 1, 2, 3, 4, 0, 9, 10, 11);
         Checks.due("offered", x.offered(7), 1 << 8);
         x.hook(11, 0, 0, 6, 0);
         Checks.due("fire", x.fire(0, 5), 0);
@@ -248,7 +222,7 @@ public final class StartsTest {
         Checks.due("wave", x.wave(5, 9), 2);
         Checks.due("wave", x.wave(5, 11), -1);
         Checks.due("stop", x.stop(5), 4);
-        runningAre(x, 6, 7, 8, 2, 3, 4, 10, 11);
+        Look.runningAre(x, 6, 7, 8, 2, 3, 4, 10, 11);
         Checks.due("start", x.start(0), 3);
         Checks.due("running", x.status(1), 11);
     }
@@ -263,8 +237,8 @@ public final class StartsTest {
             x.start(p);
         }
         Checks.due("stop", x.stop(1), 2);
-        runningAre(x, 0, 3);
-        logIs(x, 100, 101, 102, 103, 202, 201);
+        Look.runningAre(x, 0, 3);
+        Look.logIs(x, 100, 101, 102, 103, 202, 201);
         Checks.due("stop", x.stop(3), 1);
         Checks.due("clock", x.status(5), 4);
         Checks.refused(x, "stop 4", -1, () -> x.stop(4));
@@ -294,7 +268,7 @@ public final class StartsTest {
         Checks.due("stop", x.stop(0), 4);
         Checks.due("logged youngest first", x.log(8), 203);
         Checks.due("logged youngest last", x.log(11), 200);
-        runningAre(x, 4, 5, 7, 6);
+        Look.runningAre(x, 4, 5, 7, 6);
         Checks.due("bound anew", x.provider(5, 0), 4);
         Checks.due("bound anew", x.provider(6, 1), 7);
         Checks.due("wave of one idle", x.wave(4, 0), -1);
@@ -317,7 +291,7 @@ public final class StartsTest {
         x.start(0);
         Checks.due("broken ones", x.status(2), 1);
         Checks.due("mend", x.mend(0), 2);
-        stateIs(x, 0, 0);
+        Look.stateIs(x, 0, 0);
         Checks.refused(x, "mend 1", -1, () -> x.mend(1));
         Checks.refused(x, "mend -1", -1, () -> x.mend(-1));
         x.remove(0);
@@ -332,9 +306,9 @@ public final class StartsTest {
         x.start(1);
         x.hook(0, 0, 0, 0, 1);
         Checks.due("remove", x.remove(0), 2);
-        stateIs(x, 0, 3);
-        stateIs(x, 1, 0);
-        logIs(x, 100, 101, 201, 200);
+        Look.stateIs(x, 0, 3);
+        Look.stateIs(x, 1, 0);
+        Look.logIs(x, 100, 101, 201, 200);
         Checks.due("gone ones", x.status(3), 1);
         Checks.due("hooks stay", x.status(4), 1);
         Checks.due("hooks stay", x.hookOf(0, 0), 0);
@@ -390,10 +364,10 @@ public final class StartsTest {
         for (int p : new int[] {2, 0, 3}) {
             x.start(p);
         }
-        runningAre(x, 2, 0, 3);
+        Look.runningAre(x, 2, 0, 3);
         x.stop(2);
         x.start(2);
-        runningAre(x, 0, 3, 2);
+        Look.runningAre(x, 0, 3, 2);
         Checks.due("running(-1)", x.running(-1), -1);
         Checks.due("running refuses nothing", x.status(15) + x.status(11), 0);
     }
