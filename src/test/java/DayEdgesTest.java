@@ -259,38 +259,19 @@ public final class DayEdgesTest {
         x.seed(-3);
         Checks.holds("some run, some are broken", x.status(1) > 0 && x.status(2) > 0);
         Checks.due("image", x.image(), 12);
-        String before = stateOf(x);
+        String before = Dump.ofImage(x);
         x.fire(0, 9);
         x.days(40);
         x.remove(11);
         x.remove(0);
         x.fire(3, 9);
-        Checks.holds("it has changed", !stateOf(x).equals(before));
+        Checks.holds("it has changed", !Dump.ofImage(x).equals(before));
         Checks.due("restore", x.restore(), 12);
-        Checks.same("restored", stateOf(x), before);
+        Checks.same("restored", Dump.ofImage(x), before);
         Checks.due("no room for more", x.plug(0, 0, 0, 0, 0, 26), -7);
         Checks.due("no room for more", x.hook(0, 0, 0, 0, 0), -7);
         x.restore();
-        Checks.same("restored again", stateOf(x), before);
-    }
-
-    private static String stateOf(PluginChains x) {
-        StringBuilder text = new StringBuilder();
-        for (int what = 0; what <= 6; what++) {
-            text.append(' ').append(x.status(what));
-        }
-        for (int p = 0; p < 12; p++) {
-            for (int what = 0; what < 8; what++) {
-                text.append(' ').append(x.plugOf(p, what)).append(' ').append(x.provider(p, what));
-            }
-            text.append(' ').append(x.age(p)).append(' ').append(x.tally(p)).append(' ').append(x.running(p));
-        }
-        for (int h = 0; h < 24; h++) {
-            for (int what = 0; what < 5; what++) {
-                text.append(' ').append(x.hookOf(h, what)).append(' ').append(x.chain(what % 4, h));
-            }
-        }
-        return text.toString();
+        Checks.same("restored again", Dump.ofImage(x), before);
     }
 
     /** The same: one that is GONE runs again, with its hooks, and its name is taken again. */

@@ -115,15 +115,15 @@ public final class DaysTest {
     private static void images() {
         PluginChains x = lived();
         Checks.due("image", x.image(), 6);
-        String before = stateOf(lived());
-        Checks.holds("what is kept has a tally", before.contains(" t9"));
-        Checks.same("an image changes nothing", stateOf(x), before);
+        String before = Dump.ofImage(lived());
+        Checks.due("what is kept has a tally", x.tally(2), 9);
+        Checks.same("an image changes nothing", Dump.ofImage(x), before);
         change(x);
         Checks.due("restore", x.restore(), 6);
-        Checks.same("restored", stateOf(x), before);
+        Checks.same("restored", Dump.ofImage(x), before);
         change(x);
         Checks.due("restore again", x.restore(), 6);
-        Checks.same("restored again", stateOf(x), before);
+        Checks.same("restored again", Dump.ofImage(x), before);
     }
 
     private static void change(PluginChains x) {
@@ -135,29 +135,6 @@ public final class DaysTest {
         x.fire(0, 3);
         x.remove(2);
         x.mend(0);
-    }
-
-    /** What an image has, as far as it can be seen. */
-    private static String stateOf(PluginChains x) {
-        StringBuilder text = new StringBuilder();
-        for (int what = 0; what <= 6; what++) {
-            text.append(" s").append(x.status(what));
-        }
-        for (int p = 0; p < x.status(0); p++) {
-            for (int what = 0; what < 8; what++) {
-                text.append(' ').append(x.plugOf(p, what));
-            }
-            text.append(" a").append(x.age(p)).append(" t").append(x.tally(p));
-            for (int service = 0; service < 8; service++) {
-                text.append(" p").append(x.provider(p, service));
-            }
-        }
-        for (int h = 0; h < x.status(4); h++) {
-            for (int what = 0; what < 5; what++) {
-                text.append(" h").append(x.hookOf(h, what));
-            }
-        }
-        return text.toString();
     }
 
     private static void imagesOfMore() {

@@ -12,6 +12,17 @@ final class Dump {
         return text.toString();
     }
 
+    /** What an image has, as far as it can be seen. */
+    static String ofImage(PluginChains x) {
+        StringBuilder text = new StringBuilder();
+        for (int what = 0; what <= 6; what++) {
+            text.append(" status ").append(x.status(what));
+        }
+        plugs(x, text);
+        hooks(x, text);
+        return text.toString();
+    }
+
     private static void shelves(PluginChains x, StringBuilder text) {
         for (int s = 0; s < 8; s++) {
             text.append(" shelf ").append(x.holds(s)).append(':');
@@ -25,9 +36,6 @@ final class Dump {
     }
 
     private static void plugs(PluginChains x, StringBuilder text) {
-        for (int what = 0; what <= 9; what++) {
-            text.append(" status ").append(x.status(what));
-        }
         for (int p = 0; p < x.status(0); p++) {
             text.append("\n plug ").append(p).append(':');
             for (int what = 0; what < 8; what++) {
@@ -58,7 +66,11 @@ final class Dump {
     }
 
     private static void latest(PluginChains x, StringBuilder text) {
-        text.append("\n given ").append(x.given()).append(" fault ").append(x.fault());
+        text.append('\n');
+        for (int what = 0; what <= 9; what++) {
+            text.append(" status ").append(x.status(what));
+        }
+        text.append(" given ").append(x.given()).append(" fault ").append(x.fault());
         for (int i = 0; i < 30; i++) {
             text.append(" t").append(x.trace(i));
         }
