@@ -8,6 +8,7 @@ public final class StartEdgesTest {
         chainOfTwelve();
         chainOfTwelveFails();
         whyThree();
+        whyThreeBehindOneStarted();
         strongestOneIsBeingStarted();
         nineFaults();
         faultBehindTheNeeds();
@@ -27,7 +28,8 @@ public final class StartEdgesTest {
         Checks.end("StartEdgesTest");
     }
 
-    private static final String[] NAMES = {"a", "aa", "aaaa", "aaab", "ab", "abz", "az", "b", "ba", "z", "zy", "zzzz"};
+    private static final String[] NAMES = {"a", "aa", "aaaa", "aaab", "ab", "abz", "az", "b", "ba", "z",
+        "zy", "zz", "zzy", "zzz", "zzza", "zzzz"};
 
     /** "that of greatest STRENGTH, of several that of least NAME"; "what is a beginning of another one ahead of it". */
     private static void takenByStrengthAndName() {
@@ -190,6 +192,27 @@ public final class StartEdgesTest {
         Look.causesAre(x, 2, 4, 0, 1, 4, 7, 0, 3, 0);
         Look.logIs(x);
         Checks.due("running", x.status(1), 0);
+    }
+
+    /** The same, when another one was STARTED ahead of it: whatever numbers the three have. */
+    private static void whyThreeBehindOneStarted() {
+        int[][] numbers = {{0, 1, 2}, {0, 2, 1}, {1, 0, 2}, {1, 2, 0}, {2, 0, 1}, {2, 1, 0}};
+        String[] needs = {"01", "", "2"};
+        String[] offers = {"2", "0", "1"};
+        for (int[] number : numbers) {
+            PluginChains x = new PluginChains();
+            for (int p = 0; p < 3; p++) {
+                for (int one = 0; one < 3; one++) {
+                    if (number[one] == p) {
+                        Make.plain(x, "" + (char) ('a' + p), needs[one], offers[one]);
+                    }
+                }
+            }
+            Checks.due("would", x.would(number[0], -1), 0);
+            Checks.due("start", x.start(number[0]), -6);
+            Look.causesAre(x, number[0], 4, 1, number[2], 3, 2);
+            Look.logIs(x, 100 + number[1], 200 + number[1]);
+        }
     }
 
     /** The strongest one is taken even if it is just being STARTED and a weaker one is not. */
